@@ -46,7 +46,6 @@ public final class ClueLogic {
     private boolean ran;
 
     public ClueLogic() {
-        length = 0;
         begin(new Puzzle(1, 0, 0));
     }
 
@@ -251,7 +250,7 @@ public final class ClueLogic {
         }
     }
 
-    /** Reads a text from left to right; what it cannot read is null, and its place is where it stands. */
+    /** Reads from left to right and answers null where it cannot go on: its place is the bad byte's then. */
     private static final class Reader {
         private final int[] text;
         private final int length;
@@ -367,7 +366,7 @@ public final class ClueLogic {
             return take(';', 0, 0) != NONE;
         }
 
-        /** How far the next byte is from zero, if that is from low to high; only then it is passed. */
+        /** A byte that is refused is not passed, so that the place stays at it. */
         private int take(int zero, int low, int high) {
             if (place >= length) {
                 return NONE;
@@ -459,7 +458,7 @@ public final class ClueLogic {
         private final int[] ticks = new int[MOST_ORDERS];
         private final int[] value = new int[MOST_ORDERS * MOST_THINGS];
         private int count;
-        private int all;
+        private int allTicks;
 
         Orders(int things) {
             this.things = things;
@@ -478,9 +477,8 @@ public final class ClueLogic {
             return ticks[order];
         }
 
-        /** The ticks of all orders together. */
-        int all() {
-            return all;
+        int allTicks() {
+            return allTicks;
         }
 
         int value(int order, int thing) {
@@ -504,7 +502,7 @@ public final class ClueLogic {
                 return;
             }
             ticks[count] = ticked;
-            all |= ticked;
+            allTicks |= ticked;
             for (int thing = 0; thing < things; thing++) {
                 // One bit of four is set: those below it are as many as the value.
                 int bit = (ticked >> (MOST_THINGS * thing)) & ROW;
@@ -565,12 +563,10 @@ public final class ClueLogic {
             }
         }
 
-        /** The order of a kind in this layout. */
         int order(int kind) {
             return open[MOST_ORDERS * kind + at[kind]];
         }
 
-        /** Which thing has each value in this layout, as a clue wants it. */
         int[] thing() {
             return thing;
         }
@@ -638,7 +634,7 @@ public final class ClueLogic {
             }
             found = true;
             int[] may = new int[MOST_KINDS];
-            Arrays.fill(may, puzzle.orders().all());
+            Arrays.fill(may, puzzle.orders().allTicks());
             int layouts = walk.choose(may);
             walk.start();
             for (int i = 0; i < layouts; i++) {
@@ -714,7 +710,7 @@ public final class ClueLogic {
             this.puzzle = puzzle;
             walk = new Walk(puzzle);
             for (int kind = 0; kind < puzzle.kinds(); kind++) {
-                may[kind] = puzzle.orders().all();
+                may[kind] = puzzle.orders().allTicks();
             }
             mayBe = waysIn(puzzle.parties());
         }
