@@ -3,7 +3,8 @@ import java.util.Random;
 /** Calls in any order with any arguments: none throws, and the same calls always answer the same. */
 public final class AnyCallsTest {
     private static final int RUNS = 600;
-    private static final int CALLS = 512;
+    /** More than the 512 of which the document tells what they answer: the others may not throw either. */
+    private static final int CALLS = 700;
     private static final int[] EDGES = {-2, -1, 0, 1, 2, 3, 4, 5, 20, 99, 100, 255, 256, Integer.MAX_VALUE, Integer.MIN_VALUE};
 
     private static final Due due = new Due("AnyCallsTest");

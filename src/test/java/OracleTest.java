@@ -1,6 +1,9 @@
 import java.util.List;
 
-/** Made-up texts, good and bad, read one behind the other by the program and by the Oracle. */
+/**
+ * Made-up texts, good and bad, read one behind the other by the program and by the Oracle. An object is
+ * asked more than 512 times here: the program has no such bound, though the document promises no more.
+ */
 public final class OracleTest {
     private static final Due due = new Due("OracleTest");
 

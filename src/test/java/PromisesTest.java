@@ -2,8 +2,6 @@
 public final class PromisesTest {
     private static final int LEAST = Integer.MIN_VALUE;
     private static final int MOST = Integer.MAX_VALUE;
-    /** Any number that is never a thing, kind, value, person, clue or place. */
-    private static final int[] NEVER = {-1, -2, 4, 5, 31, 32, 33, 100, 256, MOST, LEAST};
 
     private static final Due due = new Due("PromisesTest");
 
@@ -59,6 +57,7 @@ public final class PromisesTest {
         due.is("unit(255)", logic.unit(255), true);
         due.is("read()", logic.read(), -1);
 
+        logic = new ClueLogic();
         Due.give(logic, "101;");
         for (int i = 0; i < 296; i++) {
             due.is("unit behind " + (4 + i), logic.unit(i % 3 == 0 ? 't' : i % 3 == 1 ? '0' : ';'), true);
@@ -75,9 +74,11 @@ public final class PromisesTest {
         }
         text.append("~~~~t1;");
         due.is("length", text.length(), 299);
+        logic = new ClueLogic();
         Due.give(logic, text.toString() + "~");
         due.is("unit behind 300", logic.unit('t'), false);
         due.is("read() of 300 that end too soon", logic.read(), -301);
+        logic = new ClueLogic();
         Due.give(logic, text.insert(text.length() - 3, '~').toString());
         due.is("unit behind 300", logic.unit('x'), false);
         due.is("read() of 300", logic.read(), 10);
@@ -235,7 +236,7 @@ public final class PromisesTest {
         due.is("told(0)", logic.told(0), 4);
         due.is("told(1)", logic.told(1), 1);
         due.is("told(2)", logic.told(2), 2);
-        for (int what : NEVER) {
+        for (int what : Due.NEVER) {
             due.is("told(" + what + ")", logic.told(what), -1);
         }
         due.is("told(3)", logic.told(3), -1);
@@ -307,7 +308,7 @@ public final class PromisesTest {
         due.is("answer(36, 0, 0)", logic.answer(36, 0, 0), -1);
         due.is("answer(0, 3, 0)", logic.answer(0, 3, 0), -1);
         due.is("answer(0, 0, 2)", logic.answer(0, 0, 2), -1);
-        for (int never : NEVER) {
+        for (int never : Due.NEVER) {
             due.is("answer(0, " + never + ", 0)", logic.answer(0, never, 0), -1);
             due.is("answer(0, 0, " + never + ")", logic.answer(0, 0, never), -1);
         }
@@ -339,7 +340,7 @@ public final class PromisesTest {
         }
         due.is("truth(16, 0)", logic.truth(16, 0), -1);
         due.is("truth(0, 3)", logic.truth(0, 3), -1);
-        for (int never : NEVER) {
+        for (int never : Due.NEVER) {
             due.is("truth(0, " + never + ")", logic.truth(0, never), -1);
         }
         for (int never : new int[] {-1, 16, 99, 100, MOST, LEAST}) {
@@ -373,7 +374,7 @@ public final class PromisesTest {
         due.is("run()", logic.run(), 24);
         due.is("often(0, 0, 0) behind run()", logic.often(0, 0, 0), 12);
         due.is("often(0, 1, 0)", logic.often(0, 1, 0), -1);
-        for (int never : NEVER) {
+        for (int never : Due.NEVER) {
             due.is("often(" + never + ", 0, 0)", logic.often(never, 0, 0), -1);
             due.is("often(0, " + never + ", 0)", logic.often(0, never, 0), -1);
             due.is("often(0, 0, " + never + ")", logic.often(0, 0, never), -1);
@@ -400,7 +401,7 @@ public final class PromisesTest {
         due.is("spare(19)", logic.spare(19), true);
         due.is("spare(20)", logic.spare(20), false);
         logic = Due.of("101;|t0~t0;");
-        for (int never : NEVER) {
+        for (int never : Due.NEVER) {
             due.is("spare(" + never + ")", logic.spare(never), false);
         }
         due.is("answer behind spare alone", logic.truth(0, 0), -1);
@@ -455,7 +456,7 @@ public final class PromisesTest {
             due.is("step(" + never + ", 1)", logic.step(never, 1), -1);
         }
         due.is("step(0, 2)", logic.step(0, 2), -1);
-        for (int never : NEVER) {
+        for (int never : Due.NEVER) {
             due.is("step(0, " + never + ")", logic.step(0, never), -1);
         }
     }
@@ -472,7 +473,7 @@ public final class PromisesTest {
         due.is("may(0, 1)", logic.may(0, 1), 14);
         due.is("may(3, 1)", logic.may(3, 1), 15);
         due.is("may(0, 2)", logic.may(0, 2), -1);
-        for (int never : NEVER) {
+        for (int never : Due.NEVER) {
             due.is("may(" + never + ", 0)", logic.may(never, 0), -1);
             due.is("may(0, " + never + ")", logic.may(0, never), -1);
         }
@@ -493,7 +494,7 @@ public final class PromisesTest {
         due.is("mayBe(1)", logic.mayBe(1), 3);
         due.is("mayBe(2)", logic.mayBe(2), 2);
         due.is("mayBe(3)", logic.mayBe(3), -1);
-        for (int never : NEVER) {
+        for (int never : Due.NEVER) {
             due.is("mayBe(" + never + ")", logic.mayBe(never), -1);
         }
         logic = Due.of("101;");
